@@ -1,3 +1,5 @@
+// Who could have done it, by what was found: ../shared/DOC.md says what each call answers, by numbered promises.
+// No call makes an object: all rows are made with the object and used again.
 public final class DeedDesk {
     public static final int BAD = -1, NOT = -2, FULL = -3, NONE = -4, NULL = -11, CAST = -12, INDEX = -13, SIZE = -14;
 

@@ -1,0 +1,79 @@
+/** Promise 21: make; whole cases are held against PlainDesk. */
+public final class MakeTest {
+    public static void main(String[] args) {
+        inPlaceOfAll();
+        againTheSame();
+        for (int number = -200; number < 200; number++) {
+            whole(number);
+            whole(number * 10000019);
+        }
+        whole(Integer.MIN_VALUE);
+        whole(Integer.MAX_VALUE);
+        Check.end();
+    }
+
+    private static void inPlaceOfAll() {
+        DeedDesk x = new DeedDesk();
+        x.people(6);
+        x.deed(1, 1, 5);
+        x.lies(0, 7);
+        x.door(0, 4);
+        for (int k = 0; k < 20; k++) {
+            x.found(x.find(0, 5, 7, 9, 0), true);
+        }
+        x.sheet(0, 0, 5);
+        x.sheet(1, 1, 50);
+        x.item(0, 0, 0, 4);
+        Check.due("21: make(1)", x.make(1), 1);
+        Check.due("21: people", x.told(3), 4);
+        Check.due("21: victim", x.told(2), 0);
+        Check.due("21: place", x.told(0), 5);
+        Check.due("21: tick", x.told(1), 7);
+        Check.due("21: doors", x.told(4), 9);
+        for (int find = 0; find < 16; find++) {
+            Check.due("21: not found", x.about(find, 5), 0);
+        }
+        Check.due("21: sixteen finds", x.about(16, 0), DeedDesk.BAD);
+        Check.due("21: by no finds", x.suspects(), 14);
+        Check.due("21: in no order", x.claim(1), DeedDesk.NOT);
+        Check.due("21: the sheet stays", x.finds(0, 0, 0, 1), 17);
+        Check.due("21: the sheet's items stay", x.about(16, 0), 4);
+        Check.due("21: the other sheet stays", x.drop(1), 50);
+    }
+
+    private static void againTheSame() {
+        DeedDesk x = new DeedDesk();
+        for (int number = 0; number < 5; number++) {
+            int doer = x.make(number);
+            x.make(number + 77);
+            Check.due("21: make(" + number + ") again", x.make(number), doer);
+            Check.holds("21: one of 1, 2, 3", doer >= 1 && doer <= 3);
+        }
+    }
+
+    private static void whole(int number) {
+        DeedDesk x = new DeedDesk();
+        PlainDesk y = new PlainDesk();
+        String what = "21: case " + number + " ";
+        int doer = x.make(number);
+        Check.due(what + "doer", doer, y.make(number));
+        for (int of = 0; of < 5; of++) {
+            Check.due(what + "told " + of, x.told(of), y.told(of));
+        }
+        for (int find = 0; find < 17; find++) {
+            for (int of = 0; of < 6; of++) {
+                Check.due(what + "find " + find, x.about(find, of), y.about(find, of));
+            }
+            Check.due(what + "found", x.found(find, true), y.found(find, true));
+        }
+        Check.holds(what + "is whole: who did it could have", (x.suspects() >> doer & 1) == 1);
+        for (int thing = 0; thing < 3; thing++) {
+            Check.due(what + "thing", x.lies(thing, 0), y.lies(thing, 0));
+        }
+        for (int a = 0; a < 8; a++) {
+            for (int b = a + 1; b < 8; b++) {
+                Check.due(what + "door", x.door(a, b), y.door(a, b));
+            }
+        }
+    }
+}
