@@ -64,6 +64,10 @@ public final class HouseTest {
         x.find(3, 2, 9, 0, 0);
         x.find(0, 0, 7, 9, 0);
         Check.due("2: things and places are not people", x.people(2), 5);
+        x.people(6);
+        x.find(4, 5, 0, 0, 0);
+        x.clear();
+        Check.due("2: a find that is gone names nobody", x.people(2), 6);
     }
 
     private static void door() {

@@ -51,10 +51,22 @@ public final class MakeTest {
         }
     }
 
+    /** What a case must be put in place of. */
+    private static void clutter(DeedDesk x) {
+        x.people(6);
+        x.deed(7, 9, 5);
+        for (int place = 0; place < 8; place++) {
+            x.door(place, (place + 3) % 8);
+            x.find(5, 5, place, place, 0);
+            x.found(place, true);
+        }
+    }
+
     private static void whole(int number) {
         DeedDesk x = new DeedDesk();
         PlainDesk y = new PlainDesk();
         String what = "21: case " + number + " ";
+        clutter(x);
         int doer = x.make(number);
         Check.due(what + "doer", doer, y.make(number));
         for (int of = 0; of < 5; of++) {

@@ -9,6 +9,7 @@ public final class WhoTest {
         suspectsBySayings();
         windowOfTaking();
         ways();
+        wayToTheLastTick();
         doer();
         next();
         fewestAndLeast();
@@ -162,6 +163,14 @@ public final class WhoTest {
         isWay("and from 2", x, 1, 1, 2, 1, 1, 2, 1, 2, 1, 0, 0, 0);
     }
 
+    private static void wayToTheLastTick() {
+        DeedDesk x = row(2);
+        lay(x, 0, 1, 2, 9, 0);
+        isWay("at 2 at tick 9", x, 1, 0, 0, 0, 0, 0, 1, 2, 1, 0, 1, 2);
+        lay(x, 1, 1, 2, 9, 0);
+        isWay("and not at 2 then", x, 1, 0, -4, -4, -4, -4, -4, -4, -4, -4, -4, -4);
+    }
+
     private static void doer() {
         DeedDesk x = row(4);
         Check.due("16: three", x.doer(), DeedDesk.NONE);
@@ -201,6 +210,10 @@ public final class WhoTest {
         Check.due("17: only one that leaves nobody", x.next(), DeedDesk.NONE);
         x.found(3, true);
         Check.due("17: all are found", x.next(), DeedDesk.NONE);
+        x = row(6);
+        x.deed(2, 5, -1);
+        x.find(2, 0, 0, 0, 0);
+        Check.due("17: all six are left", x.next(), 0);
     }
 
     private static void fewestAndLeast() {
@@ -220,6 +233,15 @@ public final class WhoTest {
         x.find(7, 1, 2, 2, 5);
         Check.due("18: one", x.fewest(), 1);
         Check.due("19: find 5", x.least(), 32);
+        x = row(5);
+        x.find(4, 1, 0, 0, 0);
+        x.find(4, 2, 0, 0, 0);
+        x.find(4, 3, 0, 0, 0);
+        Check.due("18: three", x.fewest(), 3);
+        x.find(5, 1, 0, 0, 0);
+        x.find(5, 1, 7, 0, 0);
+        Check.due("18: two that can't both be, said by 1", x.fewest(), 2);
+        Check.due("19: two that can't both be, said by 1", x.least(), 24);
         x = row(4);
         x.find(4, 1, 0, 0, 0);
         x.find(1, 0, 2, 5, 0);
@@ -297,5 +319,16 @@ public final class WhoTest {
         x.find(4, 1, 0, 0, 0);
         x.found(1, true);
         Check.due("20: in a new order", x.claim(1), 1);
+        Check.due("20: what was found ahead of clear() is no more", x.claim(2), DeedDesk.NOT);
+        x.found(1, false);
+        Check.due("20: nothing is found any more", x.claim(1), DeedDesk.NOT);
+        x = row(4);
+        x.find(0, 1, 2, 1, 0);
+        x.find(4, 3, 0, 0, 0);
+        x.find(0, 1, 0, 0, 0);
+        x.found(2, true);
+        x.found(1, true);
+        x.found(0, true);
+        Check.due("20: by two that can't both be", x.claim(2), 0);
     }
 }
