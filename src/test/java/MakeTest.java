@@ -1,5 +1,13 @@
+import java.util.Set;
+import java.util.TreeSet;
+
 /** Promise 21: make; whole cases are held against PlainDesk. */
 public final class MakeTest {
+    private static final String[] SORTS = {"done by 1", "done by 2", "done by 3", "with 0", "with 1", "with 2", "at tick 5",
+        "at tick 6", "at tick 7", "at tick 8", "9 doors", "10 doors", "1 saw 0", "1 saw no 0", "2 saw 0", "2 saw no 0",
+        "3 saw 0", "3 saw no 0", "taken at the deed's place", "taken elsewhere", "turned back", "turned aside"};
+    private static final Set<String> met = new TreeSet<>();
+
     public static void main(String[] args) {
         inPlaceOfAll();
         againTheSame();
@@ -9,6 +17,10 @@ public final class MakeTest {
         }
         whole(Integer.MIN_VALUE);
         whole(Integer.MAX_VALUE);
+        for (String sort : SORTS) {
+            Check.holds("21: no case was " + sort, met.contains(sort));
+        }
+        Check.due("21: sorts of cases", met.size(), SORTS.length);
         Check.end();
     }
 
@@ -62,6 +74,26 @@ public final class MakeTest {
         }
     }
 
+    private static void meet(DeedDesk x, PlainDesk y, int doer) {
+        int thing = x.about(5, 1);
+        int lies = x.lies(thing, 0);
+        x.lies(thing, lies);
+        met.add("done by " + doer);
+        met.add("with " + thing);
+        met.add("at tick " + x.told(1));
+        met.add(x.told(4) + " doors");
+        met.add(lies == x.told(0) ? "taken at the deed's place" : "taken elsewhere");
+        for (int who = 1; who < 4; who++) {
+            met.add(who + (x.about(6 + 3 * who, 0) == 7 ? " saw 0" : " saw no 0"));
+        }
+        if (y.turnedBack > 0) {
+            met.add("turned back");
+        }
+        if (y.turnedAside > 0) {
+            met.add("turned aside");
+        }
+    }
+
     private static void whole(int number) {
         DeedDesk x = new DeedDesk();
         PlainDesk y = new PlainDesk();
@@ -69,6 +101,7 @@ public final class MakeTest {
         clutter(x);
         int doer = x.make(number);
         Check.due(what + "doer", doer, y.make(number));
+        meet(x, y, doer);
         for (int of = 0; of < 5; of++) {
             Check.due(what + "told " + of, x.told(of), y.told(of));
         }

@@ -34,7 +34,9 @@ final class PlainDesk {
     private List<Find> finds = new ArrayList<>();
     private List<Find> order = new ArrayList<>();
     private final Object[] sheets = new Object[2];
-    private int x;
+    private long x;
+    /** How many made cases had one who was at the deed, turned back to where it was, or aside to the least place. */
+    int turnedBack, turnedAside;
 
     int people(int n) {
         if (n < 2 || n > 6) {
@@ -268,7 +270,7 @@ final class PlainDesk {
     }
 
     int make(int number) {
-        x = number;
+        x = number & 0xffffffffL;
         people = 4;
         doors = new ArrayList<>();
         for (int p = 0; p < 8; p++) {
@@ -308,7 +310,10 @@ final class PlainDesk {
         }
         for (int p = 1; p < 4; p++) {
             if (p != d && ways[p][tick] == place) {
-                int to = ways[p][tick - 1] != place ? ways[p][tick - 1] : nextTo(place).get(0);
+                boolean back = ways[p][tick - 1] != place;
+                int to = back ? ways[p][tick - 1] : nextTo(place).get(0);
+                turnedBack += back ? 1 : 0;
+                turnedAside += back ? 0 : 1;
                 for (int t = tick; t < 10; t++) {
                     ways[p][t] = to;
                 }
@@ -460,9 +465,10 @@ final class PlainDesk {
         return far;
     }
 
+    /** An int that goes round, told in 64 bits and without a sign. */
     private int draw(int m) {
-        x = x * 1103515245 + 12345;
-        return (x >>> 16) % m;
+        x = (x * 1103515245L + 12345L) % (1L << 32);
+        return (int) ((x >> 16) % m);
     }
 
     private List<Find> foundOnes() {
