@@ -13,6 +13,7 @@ public final class EdgesTest {
         deniedAtTheEdges();
         sheet();
         item();
+        lastCall();
         Check.end();
     }
 
@@ -138,6 +139,12 @@ public final class EdgesTest {
             "finds 0 0 56 1 = -13", "finds 0 1 0 1 = -12", "finds 1 0 0 1 = -11", "finds 0 0 0 13 = -1");
         Calls.run("8: numbers that are none of it", "sheet 0 1 5", "item 0 1 0 4", "item 0 1 2 MAX", "item 0 1 3 MIN",
             "item 0 1 4 -1", "finds 0 1 0 1 = 1", "about 0 2 = 0", "about 0 3 = 0", "about 0 4 = 0");
+        Calls.run("8: each number too small, too large", "sheet 0 1 5", "item 0 1 0 7", "item 0 1 1 3", "item 0 1 2 2",
+            "item 0 1 3 7", "item 0 1 4 9", "finds 0 1 0 1 = 1", "item 0 1 1 4", "finds 0 1 0 1 = -2", "item 0 1 1 -1",
+            "finds 0 1 0 1 = -2", "item 0 1 1 3", "item 0 1 2 4", "finds 0 1 0 1 = -2", "item 0 1 2 -1", "finds 0 1 0 1 = -2",
+            "item 0 1 2 2", "item 0 1 3 8", "finds 0 1 0 1 = -2", "item 0 1 3 -1", "finds 0 1 0 1 = -2", "item 0 1 3 7",
+            "item 0 1 4 10", "finds 0 1 0 1 = -2", "item 0 1 4 -1", "finds 0 1 0 1 = -2", "item 0 1 4 9", "finds 0 1 0 1 = 2",
+            "about 1 0 = 7", "about 1 1 = 3", "about 1 2 = 2", "about 1 3 = 7", "about 1 4 = 9");
         Calls.run("8: none is found", "sheet 0 0 5", "find 4 0 0 0 0 = 0", "found 0 1 = 0", "finds 0 0 0 1 = 2",
             "about 1 5 = 0", "about 0 5 = 1");
     }
@@ -220,5 +227,13 @@ public final class EdgesTest {
             "finds 0 1 0 1 = -2", "item 0 1 0 65536", "finds 0 1 0 1 = -2", "item 0 1 0 4", "finds 0 1 0 1 = 1");
         Calls.run("24: one item alone", "sheet 0 0 15", "sheet 1 0 15", "item 0 0 5 4", "finds 0 0 0 3 = 3",
             "finds 1 0 0 3 = 6", "about 0 0 = 0", "about 1 0 = 4", "about 2 0 = 0", "about 4 0 = 0");
+    }
+
+    private static void lastCall() {
+        DeedDesk x = new DeedDesk();
+        for (int call = 1; call < 512; call++) {
+            Calls.call(x, call == 1 ? "find 4 0 0 0 0" : call % 2 == 0 ? "found 0 1" : "make 7");
+        }
+        Check.due("terms: the 512th call", x.suspects(), 14);
     }
 }

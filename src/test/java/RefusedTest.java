@@ -31,6 +31,8 @@ public final class RefusedTest {
         fresh();
         rich();
         whole();
+        asked(RICH);
+        asked(WHOLE);
         Check.end();
     }
 
@@ -88,6 +90,18 @@ public final class RefusedTest {
         all(WHOLE, DeedDesk.NULL, "drop 0", "finds 0 0 0 1", "finds 0 1 99 12", "item 0 0 0 0");
         all(WHOLE, DeedDesk.CAST, "denied 0", "denied 18", "finds 1 0 0 1", "finds 1 0 5 1");
         all(WHOLE, DeedDesk.INDEX, "finds 1 1 6 1", "finds 1 1 5 2", "finds 1 1 -1 1");
+    }
+
+    /** What only asks changes nothing either, and answers alike once more. */
+    private static void asked(String[] built) {
+        String before = seen(made(built));
+        for (String call : new String[] {"told 0", "about 0 5", "denied 5", "denied 11", "suspects", "with 1", "with 0",
+            "way 2 0 9", "way 1 1 0", "doer", "next", "fewest", "least", "claim 1", "claim 3", "finds 1 1 0 0"}) {
+            DeedDesk x = made(built);
+            int once = Calls.call(x, call);
+            Check.due("once more " + call, Calls.call(x, call), once);
+            Check.holds("asked " + call + " changed something", seen(x).equals(before));
+        }
     }
 
     private static void all(String[] built, int due, String... calls) {

@@ -49,6 +49,8 @@ public final class WhoEdgesTest {
         row("2: STILL 0 tells nothing", "find 2 2 0 0 0", "found 0 1", "with 1 = 7");
         row("2: STILL at the deed's tick", "find 2 2 5 0 0", "found 0 1", "with 1 = 7", "way 1 2 4 = 1", "way 1 2 5 = 2");
         row("2: STILL behind the deed's tick", "find 2 2 6 0 0", "found 0 1", "with 1 = 3", "way 1 2 5 = -4");
+        row("2: STILL, not found any more", "find 2 2 6 0 0", "found 0 1", "with 1 = 3", "found 0 0", "with 1 = 7");
+        row("2: GONE, not found any more", "find 3 2 0 0 0", "found 0 1", "with 1 = 3", "found 0 0", "with 1 = 7");
         row("2: STILL 9, the deed at 9", "deed 2 9 0", "find 2 2 9 0 0", "found 0 1", "with 1 = 7", "find 2 1 9 0 0",
             "found 1 1", "with 1 = 5");
         row("2: STILL until the last tick on the way", "find 2 0 3 0 0", "found 0 1", "with 1 = 7", "find 2 0 4 0 0",
@@ -148,6 +150,7 @@ public final class WhoEdgesTest {
         row("17: all found", "find 2 0 0 0 0", "next = 0", "found 0 1", "next = -4", "found 0 0", "next = 0");
         row("17: it leaves nobody", "find 4 1 0 0 0", "next = -4", "find 2 0 0 0 0", "next = 1");
         row("17: nobody is left already", "find 4 1 0 0 0", "find 2 0 0 0 0", "found 0 1", "next = -4");
+        row("17: all six are left", "people 6", "deed 2 5 -1", "find 2 0 0 0 0", "next = 0");
         row("17: of like ones the least", "people 4", "find 4 2 0 0 0", "find 4 1 0 0 0", "next = 0", "found 0 1", "next = 1");
         row("17: the fewest, one at least", "people 4", "find 2 0 0 0 0", "find 4 1 0 0 0", "find 5 3 2 5 0", "find 1 0 2 5 0",
             "next = 2", "found 2 1", "next = 0");
@@ -170,6 +173,10 @@ public final class WhoEdgesTest {
         row("19: 1 and 2 ahead of 0 and 3", "people 3", "find 5 1 0 5 0", "find 0 2 0 3 0", "find 1 2 1 4 0", "find 4 2 0 0 0",
             "fewest = 1", "least = 8", "clear", "find 0 2 0 3 0", "find 0 1 0 3 0", "find 1 1 1 4 0", "find 1 2 1 4 0",
             "fewest = 2", "least = 6");
+        row("18: the fewest come last", "people 4", "find 0 1 0 3 0", "find 1 1 1 4 0", "find 4 2 0 0 0", "fewest = 3",
+            "least = 7", "find 4 3 0 0 0", "fewest = 2", "least = 12", "find 5 3 2 5 0", "fewest = 1", "least = 16");
+        row("18: the fewest come first", "people 4", "find 5 3 2 5 0", "find 4 3 0 0 0", "find 4 2 0 0 0", "find 4 1 0 0 0",
+            "fewest = 1", "least = 1");
         row("18: all five", "people 6", "deed 2 5 -1", "find 4 0 0 0 0", "find 4 1 0 0 0", "find 4 2 0 0 0", "find 4 3 0 0 0",
             "fewest = -4", "find 4 5 0 0 0", "fewest = 5", "least = 31");
     }
@@ -207,7 +214,7 @@ public final class WhoEdgesTest {
             "found 0 1 = 1", "claim 1 = 1");
         row("20: refused, the order stays", "find 4 1 0 0 0", "find 4 1 0 0 0", "found 1 1", "found 0 1", "found 2 1 = -1",
             "found -1 0 = -1", "claim 1 = 1");
-        row("20: none is found any more", "find 4 1 0 0 0", "found 0 1", "clear = 1", "claim 1 = -2", "find 2 0 0 0 0",
+        row("20: none is found any more", "find 4 1 0 0 0", "found 0 1", "clear = 1", "claim 1 = -2", "find 4 1 0 0 0",
             "find 4 1 0 0 0", "claim 1 = -2", "found 1 1", "found 0 1", "claim 1 = 1");
     }
 
