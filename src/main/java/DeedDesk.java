@@ -210,7 +210,7 @@ public final class DeedDesk {
         if (now.notes.count > MOST_SEARCHED) {
             return FULL;
         }
-        return search(now.notes.count, 0, ways.suspectsOf(now, 0, now.everyone()), NONE);
+        return search(now, ways, now.notes.count, 0, ways.suspectsOf(now, 0, now.everyone()), NONE);
     }
 
     public int claim(int who) {
@@ -332,7 +332,7 @@ public final class DeedDesk {
 
     // The best of: `best` (NONE if there is none yet), and `chosen` with any of the FINDS below `below`.
     // Leaving a FIND out is tried ahead of taking it, so sets come rising as bits, and of like ones the first stays.
-    private int search(int below, int chosen, int those, int best) {
+    private static int search(Scene scene, Ways ways, int below, int chosen, int those, int best) {
         int left = Integer.bitCount(those);
         int size = Integer.bitCount(chosen);
         if (left == 1) {
@@ -342,12 +342,12 @@ public final class DeedDesk {
             return best;
         }
         // More FINDS never make more SUSPECTS: if all that may be taken leave two, no choice of them leaves one.
-        if (Integer.bitCount(ways.suspectsOf(now, chosen | (1 << below) - 1, those)) > 1) {
+        if (Integer.bitCount(ways.suspectsOf(scene, chosen | (1 << below) - 1, those)) > 1) {
             return best;
         }
-        int without = search(below - 1, chosen, those, best);
+        int without = search(scene, ways, below - 1, chosen, those, best);
         int taken = chosen | 1 << below - 1;
-        return search(below - 1, taken, ways.suspectsOf(now, taken, those), without);
+        return search(scene, ways, below - 1, taken, ways.suspectsOf(scene, taken, those), without);
     }
 
     // The doors between the places.

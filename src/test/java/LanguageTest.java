@@ -22,23 +22,53 @@ public final class LanguageTest {
             Check.holds("line " + (i + 1) + " has a sign beyond 127", lines.get(i).chars().allMatch(c -> c < 128));
         }
         lengths(lines);
+        callsOfItself(lines);
         Check.end();
+    }
+
+    /** Rule 8: a method that calls itself is private and static, and its depth is an argument. */
+    private static void callsOfItself(List<String> lines) {
+        String head = "";
+        String name = "";
+        int found = 0;
+        for (int i = 0; i < lines.size(); i++) {
+            String line = lines.get(i).replaceAll("//.*", "");
+            if (isHead(line)) {
+                head = line;
+                name = line.replaceAll("\\(.*", "").replaceAll(".* ", "");
+            } else if (!name.isEmpty() && line.matches("(.*[^.\\w])?" + name + "\\(.*")) {
+                found++;
+                Check.holds("line " + (i + 1) + " calls its own method", head.contains("private static")
+                    && head.contains("int below"));
+            }
+        }
+        Check.due("calls of a method by itself (one search, of two branches)", found, 2);
+    }
+
+    /** The line on which a method or a constructor begins. */
+    private static boolean isHead(String line) {
+        return line.matches(" {4,8}\\w[^=]*\\) \\{") && !line.matches(" *(if|for|while|switch|else)\\b.*");
     }
 
     private static void lengths(List<String> lines) {
         int start = -1;
         int classes = 0;
+        int heads = 0;
+        int ends = 0;
         for (int i = 0; i < lines.size(); i++) {
             String line = lines.get(i);
             classes += line.matches(" *(public |private )(static )?final class .*\\{") ? 1 : 0;
-            if (line.matches(" {4,8}\\w.*\\) \\{")) {
+            if (isHead(line)) {
                 start = i;
+                heads++;
             }
-            if (line.matches(" {4,8}\\}") && start >= 0) {
+            if (start >= 0 && line.equals(lines.get(start).replaceAll("\\S.*", "}"))) {
                 Check.holds("the method at line " + (start + 1) + " is long", i - start < 60);
                 start = -1;
+                ends++;
             }
         }
+        Check.holds("each method's end was met", heads > 50 && heads == ends);
         Check.holds("at most twelve classes, not " + classes, classes > 0 && classes <= 12);
     }
 }
